@@ -14,6 +14,7 @@ public final class CompileTest {
         slots();
         limits();
         afterwards();
+        oneObject();
         Due.close();
     }
 
@@ -49,6 +50,12 @@ public final class CompileTest {
         bad("mode A ^0000005{}");
         bad("mode A 5^x{}");
         bad("mode A 5^mode{}");
+        bad("mode A 5{task t 1^on 0{}}");
+        bad("mode A 5{switch 1^if 1 to A;}");
+        bad("mode A 5{switch 1 if 1^to A;}");
+        good("mode A 5{switch 1 if(1)to A;}");
+        good("mode aAzZ 5{}");
+        good("mode Z09 5{}mode z90 5{}");
         bad("mode A5^{}");
         bad("mode A ^999999x{}");
         for (String word : "port sensor mode task on if else repeat switch to slots".split(" ")) {
@@ -223,6 +230,15 @@ public final class CompileTest {
         good(six + "}");
         bad(six + "^task z 1 on 0{}}");
 
+        StringBuilder all = new StringBuilder();
+        for (int i = 0; i < 23; i++) {
+            all.append(i % 6 == 0 ? "mode M" + i + " 1{" : "").append("task t").append(i).append(" 1 on 0{}");
+            all.append(i % 6 == 5 ? "}" : "");
+        }
+        good(all + "task t23 1 on 0{}}");
+        bad(all + "task ^t22 1 on 0{}}");
+        bad(all + "task ^t0 1 on 0{}}");
+
         String fourSwitches = "mode A 1{" + "switch 1 if 1 to A;".repeat(4);
         good(fourSwitches + "}");
         bad(fourSwitches + "^switch 1 if 1 to A;}");
@@ -241,6 +257,8 @@ public final class CompileTest {
         good(inTask("if " + "1+".repeat(29) + "-1{p=" + "1+".repeat(29) + "-1;}"));
         good("mode A 1{switch 1 if " + "1+".repeat(29) + "-1 to A;}");
         bad("mode A 1{switch 1 if " + "1+".repeat(30) + "^1 to A;}");
+        String sixty = "1+".repeat(29) + "-1";
+        good("mode A 1{task t 1 on 0{x=" + sixty + ";}" + ("switch 1 if " + sixty + " to A;").repeat(2) + "}");
 
         good(inTask("p=" + "-".repeat(8) + "1;"));
         bad(inTask("p=" + "-".repeat(8) + "^-1;"));
@@ -271,5 +289,39 @@ public final class CompileTest {
         Due.same("a good one", Due.compiled(x, "mode A 5{}"), 0);
         Due.same("has one mode", x.count(2), 1);
         Due.refused("nothing runs yet", IllegalStateException.class, () -> x.tick(1));
+    }
+
+    /** What one text leaves in the object must not be seen by the next. */
+    private static void oneObject() {
+        LogicalTimes x = new LogicalTimes();
+        String slots = "port p=1;mode A 4{task a 1 on 0{p=2;}task b 1 on 1{x=p;}slots 0,2;}";
+        String noSlots = "port p=1;mode A 4{task a 1 on 0{p=2;}task b 1 on 1{x=p;}}";
+        String misses = "port p=1;mode A 4{task a 1 on 0{p=2;repeat 9{}}task b 1 on 1{x=p;}slots 0,2;}";
+        for (int n = 0; n < 3; n++) {
+            Due.same("with slots", Due.compiled(x, slots), 0);
+            Due.same("check with slots", x.check(0), 0);
+            Due.same("without slots", Due.compiled(x, noSlots), 0);
+            Due.same("check without slots", x.check(0), 1001);
+            x.reset(0);
+            x.tick(5);
+            Due.same("nothing is sent without slots", x.port(1, 0), 1);
+            Due.same("one that misses", Due.compiled(x, misses), 0);
+            Due.same("check of one that misses", x.check(0), 1);
+        }
+        Due.same("one task of the two", Due.compiled(x, "port p=1;mode A 4{task a 1 on 0{p=2;}}"), 0);
+        Due.same("has no message", x.count(4), 0);
+        Due.same("a task that assigns nothing", Due.compiled(x, "port p=1;mode A 4{task a 1 on 0{}}"), 0);
+        Due.same("has no port", x.task(0, 5), 0);
+        Due.same("and no local", x.task(0, 4), 0);
+        Due.same("blanks ahead", Due.compiled(x, "  mode A 5{}"), 0);
+        Due.same("are gone with the text", x.compile(), 1);
+        String wide = inTask("p=" + "1+".repeat(29) + "1;" + ("q=" + "1+".repeat(29) + "1;").repeat(24));
+        for (int n = 0; n < 10; n++) {
+            Due.same("a wide text", Due.compiled(x, wide), 0);
+        }
+        x.reset(0);
+        x.tick(13);
+        Due.same("p of the wide text", x.denoted(0), 30);
+        Due.same("q of the wide text", x.denoted(1), 30);
     }
 }

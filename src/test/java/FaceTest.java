@@ -5,7 +5,6 @@ import java.lang.reflect.Method;
 import java.lang.reflect.Modifier;
 import java.nio.file.Files;
 import java.nio.file.Path;
-import java.util.Arrays;
 import java.util.List;
 import java.util.TreeSet;
 import java.util.regex.Pattern;
@@ -91,7 +90,5 @@ public final class FaceTest {
             }
             Due.holds("an import outside the rules: " + line, !code.startsWith("import") || IMPORTS.contains(code));
         }
-        String[] face = FACE.stream().map(s -> s.replaceAll(".* |\\(.*", "")).toArray(String[]::new);
-        Due.same("names of the face", Arrays.stream(face).distinct().count(), 16);
     }
 }

@@ -22,6 +22,7 @@ public final class RunTest {
         faults();
         messages();
         unsentIsUnseen();
+        sentForOneSpanAlone();
         seenDiffersFromDenoted();
         running();
         resets();
@@ -346,6 +347,18 @@ public final class RunTest {
         Due.same("in N none", x.state(SENT), 2);
         Due.same("p on its own node", x.port(0, 0), 8);
         Due.same("p elsewhere", x.port(1, 0), 5);
+    }
+
+    private static void sentForOneSpanAlone() {
+        LogicalTimes x = Due.run("port p=0;mode M 4{task a 2 on 0{p=p+1;}task b 1 on 1{x=p;}slots 1;}");
+        int[] due = {0, 0, 1, 1, 1, 1, 3};
+        for (int i = 0; i < due.length; i++) {
+            x.tick(1);
+            Due.same("p elsewhere in tick " + i, x.port(1, 0), due[i]);
+        }
+        Due.same("two messages", x.state(SENT), 2);
+        x.reset(0);
+        Due.same("reset: none", x.state(SENT), 0);
     }
 
     private static void seenDiffersFromDenoted() {

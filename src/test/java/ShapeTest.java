@@ -68,6 +68,7 @@ public final class ShapeTest {
         String head = "port p=0;port q=0;mode A 6{task a 3 on 0{p=1;q=2;}";
         messages("read nowhere", head + "}", 0);
         messages("read on the same node", head + "task b 1 on 0{x=p;}}", 0);
+        messages("read by its own task alone", "port p=0;mode A 6{task a 3 on 0{p=p;}task b 1 on 1{}}", 0);
         messages("in an E of another node", head + "task b 1 on 1{x=p;}}", 3);
         messages("in the E of an if", head + "task b 1 on 1{if 1<q{}}}", 3);
         messages("once for several nodes", head + "task b 1 on 1{x=p;}task c 1 on 2{x=p;}}", 3);
