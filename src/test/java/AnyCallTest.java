@@ -100,51 +100,33 @@ public final class AnyCallTest {
         for (int i = 0; i < BYTES.length(); i++) {
             Due.compiled(new LogicalTimes(), String.valueOf(BYTES.charAt(i)).repeat(3000));
         }
-        LogicalTimes x = Due.run(most());
-        Due.same("messages of the most", x.count(4), 4 * 12 * 120);
-        for (int m = 0; m < 4; m++) {
-            Due.same("check(" + m + ") of the most", x.check(m), 1 + 6 * m);
-            Due.same("last slot(" + m + ") of the most", x.slot(m, 12 * 120 - 1), -1);
-        }
+        LogicalTimes x = Due.run(Texts.most());
         x.tick(200);
         Due.same("faults of the most", x.state(3), 6 * 199);
     }
 
-    /** Twelve ports, and four modes whose six tasks assign two ports each in every one of 120 spans. */
-    private static String most() {
-        StringBuilder text = new StringBuilder();
-        for (char p = 'a'; p < 'a' + 12; p++) {
-            text.append("port ").append(p).append("=1;");
-        }
-        for (int m = 0; m < 4; m++) {
-            text.append("mode M").append(m).append(" 120{");
-            for (int t = 0; t < 6; t++) {
-                char p = (char) ('a' + 2 * t);
-                char q = (char) (p + 1);
-                text.append("task t").append(m).append(t).append(" 120 on ").append(m).append('{');
-                text.append(p).append("=1;").append(q).append("=1;}");
-            }
-            text.append('}');
-        }
-        return text.toString();
-    }
-
-    /** The calls of one run share a room: 512 of the dearest kinds may not fill a part of it that counts. */
+    /** The calls of one run share a room: 512 of a kind may not fill a part of it that counts. */
     private static void roomOfCalls() {
-        LogicalTimes x = Due.run(TEXTS[0]);
         long before = allocated();
-        for (int n = 0; n < 500; n++) {
-            x.reset(0);
-            x.tick(200);
-            x.check(0);
-            x.slot(0, 0);
-            Due.give(x, TEXTS[0]);
+        LogicalTimes x = new LogicalTimes();
+        Due.holds("an object is small", allocated() - before < 300000 && x.count(0) == 0);
+        before = allocated();
+        for (int n = 0; n < 160; n++) {
+            // "mode", " A 5", "{}": a program, and one byte less, a fault.
+            x.feed(0x6d6f6465, 0x20412035, 0x7b7d2020, 0, 0);
+            x.end(n % 2 == 0 ? 9 : 10);
             x.compile();
         }
-        Due.holds("compiling and running 500 times allocates few bytes", allocated() - before < 1000000);
+        Due.holds("compiling allocates few bytes", allocated() - before < 100000);
+        LogicalTimes y = Due.run(TEXTS[0]);
         before = allocated();
-        LogicalTimes y = new LogicalTimes();
-        Due.holds("an object is small", allocated() - before < 300000 && y.count(0) == 0);
+        for (int n = 0; n < 120; n++) {
+            y.reset(0);
+            y.tick(200);
+            y.check(0);
+            y.slot(0, 0);
+        }
+        Due.holds("running allocates few bytes", allocated() - before < 10000);
     }
 
     private static long allocated() {

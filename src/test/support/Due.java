@@ -1,16 +1,46 @@
 /** What every test of the project needs: answers compared with what is due, and texts brought to an object. */
 final class Due {
+    private static final int MOST_BYTES = 3000;
+
     private static int answers = 0;
     private static int wrong = 0;
+    private static int sentences = 0;
+    private static int answersAhead = 0;
+    private static String sentence = "";
 
     private Due() {
+    }
+
+    /** The document's words that the answers from here on are due by; a sentence without an answer is wrong. */
+    static void sentence(String words) {
+        closeSentence();
+        sentence = words;
+        answersAhead = answers;
+        sentences++;
+    }
+
+    private static void closeSentence() {
+        if (sentences > 0 && answers == answersAhead) {
+            tell("no answer was asked for");
+        }
+    }
+
+    private static void tell(String what) {
+        wrong++;
+        System.out.println((sentence.isEmpty() ? "" : "[" + sentence + "] ") + what);
     }
 
     static void same(String what, long got, long due) {
         answers++;
         if (got != due) {
-            wrong++;
-            System.out.println(what + " answered " + got + ", due is " + due);
+            tell(what + " answered " + got + ", due is " + due);
+        }
+    }
+
+    static void same(String what, String got, String due) {
+        answers++;
+        if (!got.equals(due)) {
+            tell(what + " answered " + got + ", due is " + due);
         }
     }
 
@@ -19,25 +49,28 @@ final class Due {
     }
 
     static void refused(String what, Class<? extends RuntimeException> due, Runnable call) {
-        answers++;
         String got = "nothing";
         try {
             call.run();
         } catch (RuntimeException thrown) {
             got = thrown.getClass().getSimpleName();
         }
-        if (!got.equals(due.getSimpleName())) {
-            wrong++;
-            System.out.println(what + " threw " + got + ", due is " + due.getSimpleName());
-        }
+        same(what + " throws:", got, due.getSimpleName());
     }
 
     /** Feeds the text's characters, which are bytes, and cuts the tape behind them. */
     static void give(LogicalTimes x, String text) {
+        holds("a text that has " + text.length() + " bytes fits", text.length() <= MOST_BYTES);
+        feed(x, text);
+        holds("end(" + text.length() + ")", x.end(text.length()));
+    }
+
+    /** Feeds the text's characters, and zeros behind them up to the next twenty. */
+    static void feed(LogicalTimes x, String text) {
         for (int i = 0; i < text.length(); i += 20) {
-            x.feed(four(text, i), four(text, i + 4), four(text, i + 8), four(text, i + 12), four(text, i + 16));
+            holds("feed at " + i,
+                x.feed(four(text, i), four(text, i + 4), four(text, i + 8), four(text, i + 12), four(text, i + 16)));
         }
-        x.end(text.length());
     }
 
     private static int four(String text, int from) {
@@ -67,7 +100,8 @@ final class Due {
     }
 
     static void close() {
-        System.out.println(answers - wrong + " answers as due, " + wrong + " not");
+        closeSentence();
+        System.out.println(answers + " answers asked for by " + sentences + " sentences, " + wrong + " wrong");
         if (wrong != 0 || answers == 0) {
             System.exit(1);
         }
