@@ -330,6 +330,11 @@ public final class FaultTest {
         Due.same("has no port", x.task(0, 5), 0);
         Due.same("and no local", x.task(0, 4), 0);
         Due.same("the same names again", Due.compiled(x, "port p=1;mode A 4{task a 1 on 0{}}"), 0);
+        Due.same("two modes that switch", Due.compiled(x, "mode A 4{}mode B 4{switch 1 if 1 to B;}"), 0);
+        Due.same("one mode that doesn't", Due.compiled(x, "mode A 4{}"), 0);
+        x.reset(0);
+        x.tick(5);
+        Due.same("stays in it", x.state(2), 0);
         Due.same("names of another text", Due.compiled(x, "mode B 4{task b 1 on 0{x=p;}}"), 26);
     }
 

@@ -237,6 +237,13 @@ public final class RunTest {
             Due.same("p, also where none reads it, on " + node, x.port(node, 0), 5);
             Due.same("q on its own node alone, on " + node, x.port(node, 1), node == 0 ? 6 : 0);
         }
+        // Two slots, two ports: both are sent, and seen together.
+        LogicalTimes both = Due.run("port p=0;port q=0;mode M 4{task a 1 on 0{p=5;q=6;}task b 1 on 1{x=p+q;}slots 2,3;}");
+        both.tick(5);
+        for (int node = 0; node < 4; node++) {
+            Due.same("p of both on " + node, both.port(node, 0), 5);
+            Due.same("q of both on " + node, both.port(node, 1), 6);
+        }
         // Each span has a message of its own.
         LogicalTimes y = Due.run("port p=0;mode M 4{task a 2 on 0{p=p+1;}task b 1 on 1{x=p;}slots 1;}");
         int[] due = {0, 0, 1, 1, 1, 1, 3};

@@ -216,6 +216,7 @@ public final class ShapeTest {
         messages("once for several nodes", head + "task b 1 on 1{x=p;}task c 1 on 2{x=p;}}", 3);
         messages("on the same and on another", head + "task b 1 on 0{x=p;}task c 1 on 2{x=p;}}", 3);
         messages("both ports", head + "task b 1 on 1{x=p*q;}}", 6);
+        messages("sensors and locals there alone", "sensor s;" + head + "task b 1 on 1{x=s;if x+s{y=x*2;}}}", 0);
         messages("in a switch alone", head + "switch 1 if p to A;}", 0);
         messages("in a switch of another mode", head + "}mode B 1{switch 1 if p+q to A;}", 0);
         messages("in a switch ahead of a task elsewhere", head + "switch 1 if p to A;}mode B 1{task b 1 on 1{}}", 0);
