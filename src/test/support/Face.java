@@ -11,18 +11,22 @@ final class Face {
             int asked = what;
             all.append(answer(() -> x.count(asked)));
         }
-        for (int t = 0; t < x.count(3); t++) {
+        int ports = x.count(0);
+        int modes = x.count(2);
+        int tasks = x.count(3);
+        int messages = x.count(4);
+        for (int t = 0; t < tasks; t++) {
             addTask(all, x, t);
         }
-        for (int m = 0; m < x.count(2); m++) {
-            addMode(all, x, m);
+        for (int m = 0; m < modes; m++) {
+            addMode(all, x, m, messages);
         }
         for (int what = 0; what <= 6; what++) {
             int asked = what;
             all.append(answer(() -> x.state(asked)));
         }
         for (int node = 0; node < 4; node++) {
-            addNode(all, x, node);
+            addNode(all, x, node, ports);
         }
         return all.toString();
     }
@@ -36,17 +40,17 @@ final class Face {
         all.append(answer(() -> x.slack(t)));
     }
 
-    private static void addMode(StringBuilder all, LogicalTimes x, int m) {
+    private static void addMode(StringBuilder all, LogicalTimes x, int m, int messages) {
         all.append("mode: ").append(answer(() -> x.check(m)));
-        for (int i = 0; i < x.count(4); i++) {
+        for (int i = 0; i < messages; i++) {
             int asked = i;
             all.append(answer(() -> x.slot(m, asked)));
         }
     }
 
-    private static void addNode(StringBuilder all, LogicalTimes x, int node) {
+    private static void addNode(StringBuilder all, LogicalTimes x, int node, int ports) {
         all.append("node: ").append(answer(() -> x.running(node)));
-        for (int p = 0; p < x.count(0); p++) {
+        for (int p = 0; p < ports; p++) {
             int asked = p;
             all.append(answer(() -> x.port(node, asked))).append(answer(() -> x.denoted(asked)));
         }
