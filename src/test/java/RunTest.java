@@ -49,6 +49,7 @@ public final class RunTest {
         stateOfRuns();
         runningTasks();
         runningNone();
+        lastOf512Calls();
         Due.close();
     }
 
@@ -783,5 +784,17 @@ public final class RunTest {
         Due.same("it ran again", x.running(0), 0);
         x.reset(0);
         Due.same("none behind reset", x.running(0), -1);
+    }
+
+    private static void lastOf512Calls() {
+        Due.sentence("An object is used for at most 512 calls after it has been made");
+        String text = "port p=0;mode M 1{task t 1 on 0{p=p+1;}}";
+        LogicalTimes x = Due.run(text);
+        // The feeds, end, compile and reset went ahead, and one call is left to ask.
+        int ticks = 512 - ((text.length() + 19) / 20 + 3) - 1;
+        for (int n = 0; n < ticks; n++) {
+            x.tick(200);
+        }
+        Due.same("the last of 512 calls", x.denoted(0), ticks * 200 - 1);
     }
 }
