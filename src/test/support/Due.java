@@ -73,7 +73,8 @@ final class Due {
         }
     }
 
-    private static int four(String text, int from) {
+    /** Four bytes of the text as an int, with zeros behind its end. */
+    static int four(String text, int from) {
         int word = 0;
         for (int i = from; i < from + 4; i++) {
             word = word << 8 | (i < text.length() ? text.charAt(i) & 255 : 0);
